@@ -88,13 +88,15 @@ public final class NameMangler {
 
     public int define(int n) throws IllegalArgumentException, IllegalStateException {
         needArgument(n >= 0 && n <= tape.size);
-        readText(n);
+        startReading();
+        texts.read(tape, n, first);
         return settle(texts);
     }
 
     public int link(int n) throws IllegalArgumentException, IllegalStateException {
         needArgument(n >= 0 && n <= tape.size);
-        readName(n, false);
+        startReading();
+        names.read(tape, n, first, false);
         return settle(names);
     }
 
@@ -173,7 +175,10 @@ public final class NameMangler {
     }
 
     public int entry(int symbol, int k, int what) throws NoSuchElementException, IllegalArgumentException {
-        int node = held(symbol, k);
+        needSymbol(symbol);
+        show(symbol);
+        needElement(k >= 0 && k < first.table.held.size);
+        int node = first.table.held.get(k);
         needArgument(what >= 0 && what <= 4);
         switch (what) {
             case 0: return store.kind.get(node);
@@ -185,8 +190,10 @@ public final class NameMangler {
     }
 
     public int entryAt(int symbol, int k, int i) throws NoSuchElementException {
-        int node = held(symbol, k);
-        needElement(i >= 0 && i < store.text.get(node));
+        needSymbol(symbol);
+        show(symbol);
+        int node = first.table.held.get(k);
+        needElement(node != NONE && i >= 0 && i < store.text.get(node));
         teller.tell(node, text);
         return text.get(i);
     }
@@ -200,13 +207,17 @@ public final class NameMangler {
 
     public int check(int n) throws IllegalArgumentException {
         needArgument(n >= 0 && n <= tape.size);
-        readName(n, false);
+        startReading();
+        names.read(tape, n, first, false);
+        endReading(names);
         return names.kind;
     }
 
     public int respell(int n) throws IllegalArgumentException {
         needArgument(n >= 0 && n <= tape.size);
-        readName(n, true);
+        startReading();
+        names.read(tape, n, first, true);
+        endReading(names);
         if (names.kind != 0) {
             return names.kind - FAULT_SHIFT;
         }
@@ -327,23 +338,18 @@ public final class NameMangler {
         shown = NONE;
     }
 
-    private void readText(int n) {
+    private void startReading() {
         shown = NONE;
         store.clear();
-        texts.read(tape, n, first);
-        place = texts.place;
-        tape.clear();
     }
 
-    private void readName(int n, boolean again) {
-        shown = NONE;
-        store.clear();
-        names.read(tape, n, first, again);
-        place = names.place;
+    private void endReading(Reader reader) {
+        place = reader.place;
         tape.clear();
     }
 
     private int settle(Reader reader) {
+        endReading(reader);
         if (reader.kind != 0) {
             return reader.kind - FAULT_SHIFT;
         }
@@ -363,28 +369,19 @@ public final class NameMangler {
         if (shown == symbol) {
             return;
         }
-        store.clear();
-        readInto(now().name(symbol), first);
+        startReading();
+        Bytes name = now().name(symbol);
+        names.read(name, name.size, first, false);
         shown = symbol;
     }
 
     /** Both in one store, so that what is told alike has the same number in it. */
     private void showBoth(int a, int b) {
-        shown = NONE;
-        store.clear();
-        readInto(now().name(a), first);
-        readInto(now().name(b), second);
-    }
-
-    private void readInto(Bytes name, Symbol symbol) {
-        names.read(name, name.size, symbol, false);
-    }
-
-    private int held(int symbol, int k) {
-        needSymbol(symbol);
-        show(symbol);
-        needElement(k >= 0 && k < first.table.held.size);
-        return first.table.held.get(k);
+        startReading();
+        Bytes nameOfA = now().name(a);
+        Bytes nameOfB = now().name(b);
+        names.read(nameOfA, nameOfA.size, first, false);
+        names.read(nameOfB, nameOfB.size, second, false);
     }
 
     private int blankBetweenNames(int n) {
@@ -399,11 +396,11 @@ public final class NameMangler {
 
     /** How many symbols of the draft are others now; NONE, if a text is too long. */
     private int reword(State draft, int blank, int n) {
-        shown = NONE;
         int others = 0;
         for (int symbol = 0; symbol < draft.count; symbol++) {
-            store.clear();
-            readInto(now().name(symbol), first);
+            Bytes name = now().name(symbol);
+            startReading();
+            names.read(name, name.size, first, false);
             int from = store.word(tape, 0, blank);
             int to = store.word(tape, blank + 1, n - blank - 1);
             store.reword(from, to, renamed);
@@ -412,7 +409,7 @@ public final class NameMangler {
                 return NONE;
             }
             speller.spell(first, spelled);
-            if (!spelled.same(now().name(symbol))) {
+            if (!spelled.same(name)) {
                 others++;
             }
             draft.put(symbol, spelled, speller.pathEnd);
@@ -490,7 +487,7 @@ public final class NameMangler {
         }
 
         void put(int i, int number) {
-            while (size <= i) {
+            for (int k = size; k <= i; k++) {
                 add(NONE);
             }
             if (i >= 0 && i < size) {
@@ -519,7 +516,9 @@ public final class NameMangler {
         }
 
         void add(int sign) {
-            makeRoom(size + 1);
+            if (size >= row.length) {
+                row = Arrays.copyOf(row, 2 * size);
+            }
             row[size] = (byte) sign;
             size++;
         }
@@ -561,7 +560,9 @@ public final class NameMangler {
         }
 
         void take(Bytes other) {
-            makeRoom(other.size);
+            if (other.size > row.length) {
+                row = Arrays.copyOf(row, 2 * other.size);
+            }
             System.arraycopy(other.row, 0, row, 0, other.size);
             size = other.size;
         }
@@ -607,12 +608,6 @@ public final class NameMangler {
             // beyond its end a row reads as NONE, which is below all bytes
             return at != NONE && get(at) < other.get(at);
         }
-
-        private void makeRoom(int length) {
-            if (length > row.length) {
-                row = Arrays.copyOf(row, Math.max(length, 2 * row.length));
-            }
-        }
     }
 
     /** All types and paths of what is looked at: each once, behind all that is in it. */
@@ -628,8 +623,8 @@ public final class NameMangler {
         final Ints next = new Ints();
         final int[] heads = new int[64];
         final Ints text = new Ints();
-        /** Bytes when nothing is referred to, of a path without its "N" and "E". */
-        final Ints plain = new Ints();
+        /** Bytes when nothing is referred to. */
+        final Ints full = new Ints();
         final Ints height = new Ints();
         final Ints names = new Ints();
         final Ints basics = new Ints();
@@ -649,7 +644,7 @@ public final class NameMangler {
             parts.cut(0);
             next.cut(0);
             text.cut(0);
-            plain.cut(0);
+            full.cut(0);
             height.cut(0);
             names.cut(0);
             basics.cut(0);
@@ -668,16 +663,14 @@ public final class NameMangler {
             }
             wordFrom.add(letters.size);
             wordLength.add(length);
-            letters.addPart(source, start, length);
+            for (int i = 0; i < length; i++) {
+                letters.add(source.get(start + i));
+            }
             return wordLength.size - 1;
         }
 
         int basic(int which) {
             return node(BASIC, NONE, which, open.size);
-        }
-
-        int path(int outer, int word) {
-            return node(PATH, outer, word, open.size);
         }
 
         /** The node of this kind; its parts are what is open from the mark on, which is closed. */
@@ -696,7 +689,11 @@ public final class NameMangler {
             next.add(heads[head] - 1);
             heads[head] = made + 1;
             closeParts(mark);
-            measure(made);
+            text.add(Math.min(MOST, ownText(made) + sumOf(text, made)));
+            basics.add(Math.min(MOST, (ofKind == BASIC ? 1 : 0) + sumOf(basics, made)));
+            names.add(ofKind == PATH ? 1 + Math.max(0, names.get(ofInner)) : ofKind == WITH ? names.get(ofInner) : 0);
+            full.add(Math.min(MOST, ownSpelling(made) + sumOf(full, made)));
+            height.add(heightOf(made));
             return made;
         }
 
@@ -706,11 +703,6 @@ public final class NameMangler {
 
         boolean isPath(int node) {
             return kind.get(node) == PATH || kind.get(node) == WITH;
-        }
-
-        /** Bytes of a type when nothing is referred to. */
-        int fullLength(int node) {
-            return plain.get(node) + (names.get(node) > 1 ? 2 : 0);
         }
 
         boolean isBarred(int ofKind, int ofInner) {
@@ -766,7 +758,7 @@ public final class NameMangler {
                 return false;
             }
             for (int i = 0; i < count.get(node); i++) {
-                if (part(node, i) != open.get(mark + i)) {
+                if (parts.get(from.get(node) + i) != open.get(mark + i)) {
                     return false;
                 }
             }
@@ -782,50 +774,47 @@ public final class NameMangler {
             open.cut(mark);
         }
 
-        private void measure(int node) {
-            int within = inner.get(node);
-            int textSum = Math.max(0, text.get(within));
-            int basicSum = Math.max(0, basics.get(within));
-            int plainSum = 0;
-            int deepest = 0;
+        /** The sum of a row over all that a node is made of. */
+        private int sumOf(Ints row, int node) {
+            int sum = Math.max(0, row.get(inner.get(node)));
             for (int i = 0; i < count.get(node); i++) {
-                int part = part(node, i);
-                textSum = Math.min(MOST, textSum + text.get(part) + (i > 0 ? 1 : 0));
-                basicSum = Math.min(MOST, basicSum + basics.get(part));
-                plainSum = Math.min(MOST, plainSum + fullLength(part));
-                deepest = Math.max(deepest, height.get(part));
+                sum = Math.min(MOST, sum + row.get(parts.get(from.get(node) + i)));
             }
-            text.add(Math.min(MOST, textSum + ownText(node)));
-            basics.add(kind.get(node) == BASIC ? 1 : basicSum);
-            if (isPath(node)) {
-                // a path is one type with all its outers
-                height.add(Math.max(Math.max(1, height.get(within)), 1 + deepest));
-                plainSum += Math.max(0, plain.get(within));
-                names.add(Math.max(0, names.get(within)) + (kind.get(node) == PATH ? 1 : 0));
-            } else {
-                height.add(1 + Math.max(deepest, Math.max(0, height.get(within))));
-                plainSum += within == NONE ? 0 : fullLength(within);
-                names.add(0);
+            return sum;
+        }
+
+        private int heightOf(int node) {
+            int parted = 0;
+            for (int i = 0; i < count.get(node); i++) {
+                parted = Math.max(parted, height.get(parts.get(from.get(node) + i)));
             }
-            plain.add(Math.min(MOST, plainSum + ownPlain(node)));
+            int within = Math.max(0, height.get(inner.get(node)));
+            // a path is one type with all its outers
+            boolean path = kind.get(node) == PATH || kind.get(node) == WITH;
+            return path ? Math.max(within, 1 + parted) : 1 + Math.max(within, parted);
         }
 
         private int ownText(int node) {
+            int worth = value.get(node);
+            int commas = Math.max(0, count.get(node) - 1);
             switch (kind.get(node)) {
-                case ARRAY: return 2 + digits(value.get(node));
-                case FUNCTION: return 3;
-                case PATH: return wordLength.get(value.get(node)) + (inner.get(node) == NONE ? 0 : 1);
-                case WITH: return 2;
-                case BASIC: return basicWord(value.get(node)).length();
+                case ARRAY: return 2 + digits(worth);
+                case FUNCTION: return 3 + commas;
+                case PATH: return wordLength.get(worth) + (inner.get(node) == NONE ? 0 : 1);
+                case WITH: return 2 + commas;
+                case BASIC: return basicWord(worth).length();
                 default: return 1;
             }
         }
 
-        private int ownPlain(int node) {
+        private int ownSpelling(int node) {
             int worth = value.get(node);
+            int letters = wordLength.get(worth);
+            // "N" and "E" come with the second name, the further ones stand within them
+            int between = names.get(node) == 2 ? 2 : 0;
             switch (kind.get(node)) {
                 case ARRAY: return 2 + digits(worth);
-                case PATH: return digits(wordLength.get(worth)) + wordLength.get(worth);
+                case PATH: return digits(letters) + letters + between;
                 case FUNCTION: return 2;
                 case WITH: return 2;
                 default: return 1;
@@ -913,9 +902,9 @@ public final class NameMangler {
         }
 
         int plainLength() {
-            int sum = 2 + store.fullLength(path) + (listed && members.size == 0 ? 1 : 0);
+            int sum = 2 + store.full.get(path) + (listed && members.size == 0 ? 1 : 0);
             for (int i = 0; i < members.size; i++) {
-                sum = Math.min(MOST, sum + store.fullLength(members.get(i)));
+                sum = Math.min(MOST, sum + store.full.get(members.get(i)));
             }
             return sum;
         }
@@ -1042,13 +1031,19 @@ public final class NameMangler {
             if (!passes('_') || !passes('Z')) {
                 return;
             }
-            int path = symbolPath();
+            int path = path(0, true);
             if (path == NONE) {
                 return;
             }
             int mark = store.open.size;
             into.listed = at < length;
-            if (readMembers()) {
+            boolean none = peek() == 'v';
+            if (none) {
+                at++;
+            }
+            if (none && at < length) {
+                fail(CANNOT_STAND, at);
+            } else if (addMembers(1, NONE)) {
                 endSymbol(into, path, mark);
             }
         }
@@ -1066,11 +1061,8 @@ public final class NameMangler {
             if (depth > DEPTH_LIMIT) {
                 return fail(TOO_DEEP, first);
             }
-            if (sign == 'N') {
-                return nested(depth, false);
-            }
-            if (isDigit(sign)) {
-                return alone(depth, false);
+            if (sign == 'N' || isDigit(sign)) {
+                return path(depth, false);
             }
             at++;
             int basic = BASIC_LETTERS.indexOf((char) sign);
@@ -1090,27 +1082,22 @@ public final class NameMangler {
                 || sign != NONE && MODIFIER_LETTERS.indexOf((char) sign) >= 0;
         }
 
-        private int symbolPath() {
+        /** The path of a symbol is its own: it is not numbered. */
+        private int path(int depth, boolean own) {
             int sign = peek();
             if (sign == 'N') {
-                return nested(0, true);
+                return nested(depth, own);
             }
             if (sign == 'S') {
-                return reference(0);
+                return reference(depth);
             }
-            return isDigit(sign) ? alone(0, true) : fail(CANNOT_STAND, at);
+            return isDigit(sign) ? alone(depth, own) : fail(CANNOT_STAND, at);
         }
 
-        private boolean readMembers() {
-            if (peek() == 'v') {
-                at++;
-                if (at < length) {
-                    fail(CANNOT_STAND, at);
-                }
-                return at >= length;
-            }
-            for (int rounds = 0; rounds < length && at < length; rounds++) {
-                if (!addMember(1)) {
+        /** All members up to what closes them; false behind a fault. */
+        private boolean addMembers(int depth, int closing) {
+            for (int rounds = 0; rounds < length && peek() != closing; rounds++) {
+                if (!addMember(depth)) {
                     return false;
                 }
             }
@@ -1154,10 +1141,8 @@ public final class NameMangler {
                 return NONE;
             }
             int mark = store.open.size;
-            for (int rounds = 0; rounds < length && peek() != 'E'; rounds++) {
-                if (!addMember(depth + 1)) {
-                    return NONE;
-                }
+            if (!addMembers(depth + 1, 'E')) {
+                return NONE;
             }
             at++;
             return store.node(FUNCTION, result, NONE, mark);
@@ -1217,7 +1202,7 @@ public final class NameMangler {
             return sign >= 'A' && sign <= 'Z' ? sign - 'A' + 10 : NONE;
         }
 
-        /** A path of one name; its own path is what a symbol does not number. */
+        /** A path of one name. */
         private int alone(int depth, boolean own) {
             int first = at;
             int path = named(NONE);
@@ -1233,9 +1218,12 @@ public final class NameMangler {
             int first = at;
             int path = NONE;
             if (peek() == 'S') {
-                path = nestedReference(depth);
+                path = reference(depth);
                 if (path == NONE) {
                     return NONE;
+                }
+                if (!mayGoOn(path)) {
+                    return fail(NOT_ALLOWED, first);
                 }
             }
             int begun = at;
@@ -1255,16 +1243,12 @@ public final class NameMangler {
             return path;
         }
 
-        /** What is referred to behind "N": whether it may stand there is told by the byte behind it. */
-        private int nestedReference(int depth) {
-            int first = at;
-            int node = reference(depth);
-            if (node == NONE) {
-                return NONE;
+        /** Whether what is referred to may stand ahead of the byte behind it. */
+        private boolean mayGoOn(int node) {
+            if (peek() == 'I') {
+                return store.kind.get(node) == PATH;
             }
-            boolean named = isDigit(peek()) && !store.isPath(node);
-            boolean argued = peek() == 'I' && store.kind.get(node) != PATH;
-            return named || argued ? fail(NOT_ALLOWED, first) : node;
+            return !isDigit(peek()) || store.isPath(node);
         }
 
         /** The path by one name more, or with arguments. */
@@ -1292,16 +1276,14 @@ public final class NameMangler {
             if (basicAt(source, from, at - from) != NONE) {
                 return fail(NOT_ALLOWED, first);
             }
-            return store.path(outer, store.word(source, from, at - from));
+            return store.node(PATH, outer, store.word(source, from, at - from), store.open.size);
         }
 
         private int arguments(int path, int depth) {
             at++;
             int mark = store.open.size;
-            for (int rounds = 0; rounds < length && (rounds == 0 || peek() != 'E'); rounds++) {
-                if (!addMember(depth + 1)) {
-                    return NONE;
-                }
+            if (!addMember(depth + 1) || !addMembers(depth + 1, 'E')) {
+                return NONE;
             }
             at++;
             return store.node(WITH, path, NONE, mark);
@@ -1414,7 +1396,7 @@ public final class NameMangler {
                 return fail(NO_SUCH_NUMBER, first);
             }
             at = end;
-            return store.path(outer, store.word(source, first, end - first));
+            return store.node(PATH, outer, store.word(source, first, end - first), store.open.size);
         }
 
         private int arguments(int path, int depth) {
