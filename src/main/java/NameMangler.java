@@ -676,11 +676,13 @@ public final class NameMangler {
         /** The node of this kind; its parts are what is open from the mark on, which is closed. */
         int node(int ofKind, int ofInner, int ofValue, int mark) {
             int head = (ofKind * 7 + ofInner * 31 + ofValue * 17 + (open.size - mark) * 5) & (heads.length - 1);
-            for (int node = heads[head] - 1; node >= 0; node = next.get(node)) {
+            int node = heads[head] - 1;
+            for (int seen = 0; seen < kind.size && node >= 0; seen++) {
                 if (isThis(node, ofKind, ofInner, ofValue, mark)) {
                     open.cut(mark);
                     return node;
                 }
+                node = next.get(node);
             }
             int made = kind.size;
             kind.add(ofKind);
@@ -1531,14 +1533,14 @@ public final class NameMangler {
             boolean nested = store.names.get(node) > 1;
             int mark = chain.size;
             int up = node;
-            while (up >= 0 && table.find(up) == NONE) {
+            for (int seen = 0; seen < store.kind.size && up != NONE && table.find(up) == NONE; seen++) {
                 chain.add(up);
                 up = store.inner.get(up);
             }
             if (nested) {
                 out.add('N');
             }
-            if (up >= 0) {
+            if (up != NONE) {
                 refer(table.find(up));
             }
             for (int i = chain.size - 1; i >= mark; i--) {
@@ -1637,8 +1639,10 @@ public final class NameMangler {
 
         private void path(int node, int depth) {
             int mark = chain.size;
-            for (int up = node; up >= 0; up = store.inner.get(up)) {
+            int up = node;
+            for (int seen = 0; seen < store.kind.size && up != NONE; seen++) {
                 chain.add(up);
+                up = store.inner.get(up);
             }
             for (int i = chain.size - 1; i >= mark; i--) {
                 lengthen(chain.get(i), depth);
