@@ -1057,11 +1057,11 @@ public final class NameMangler {
             if (!beginsType(sign)) {
                 return fail(CANNOT_STAND, first);
             }
-            if (sign == 'S') {
-                return referredType(depth, role);
-            }
             if (depth > DEPTH_LIMIT) {
                 return fail(TOO_DEEP, first);
+            }
+            if (sign == 'S') {
+                return referredType(depth, role);
             }
             if (sign == 'N' || isDigit(sign)) {
                 return path(depth, false);

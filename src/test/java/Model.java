@@ -332,11 +332,11 @@ final class Model {
             if ("vbcilfPRKAFNS0123456789".indexOf(c) < 0) {
                 throw new Fault(1, at);
             }
-            if (c == 'S') {
-                return argued(refer(depth), first, depth, result);
-            }
             if (depth == 13) {
                 throw new Fault(6, at);
+            }
+            if (c == 'S') {
+                return argued(refer(depth), first, depth, result);
             }
             if (c == 'N' || Character.isDigit(c)) {
                 return path(depth, false);

@@ -111,7 +111,11 @@ public final class ModelTest {
     /** A name, at times with things spelled again, made of a random text or of a deep tree. */
     private String name() {
         if (random.nextInt(3) == 0) {
-            return random.nextBoolean() ? tokens() : grown();
+            return switch (random.nextInt(3)) {
+                case 0 -> tokens();
+                case 1 -> grown();
+                default -> brink();
+            };
         }
         Model.Symbol symbol = null;
         for (int tries = 0; tries < 50 && symbol == null; tries++) {
@@ -171,6 +175,17 @@ public final class ModelTest {
             }
         }
         return out.toString();
+    }
+
+    /** A name of which a type opens just about as many as may be open at once, by ways that all count. */
+    private String brink() {
+        String[] openers = {"P", "P", "P", "A3_", "F", "Fi", "1cI", "N1d1eI", "S_I"};
+        String[] ends = {"S", "S_", "S0_", "S1_", "S00_", "SZZZZ_", "S?", "NS_1fE", "NS", "i", "v", "1b", "0", "?", "E", ""};
+        StringBuilder out = new StringBuilder(random.nextBoolean() ? "_Z1a1bPPi" : "_Z1a1bI1cE");
+        for (int open = 10 + random.nextInt(4); open > 0; open--) {
+            out.append(openers[random.nextInt(open % 4 == 0 ? openers.length : 3)]);
+        }
+        return out + ends[random.nextInt(ends.length)] + (random.nextBoolean() ? "E" : "");
     }
 
     private String deepText() {
