@@ -18,11 +18,15 @@ public final class EdgesTest {
         ownPathIsNotNumbered();
         twoThousandBytes();
         twelveTypes();
+        deepAndWideTypes();
+        manyTypes();
         tapeIsFull();
         tapeReadInPart();
         sixteenSymbols();
         refusedCallsLeaveTheFault();
         forgetTheFirstAndTheLast();
+        whatIsGoneIsGone();
+        askedInTurns();
         renameEdges();
         renameGrowsToTheMost();
         renameRefused();
@@ -97,6 +101,11 @@ public final class EdgesTest {
             throwsDue("rename from " + word, () -> desk.rename(word + " a"), Desk.ARGUMENT);
             desk.it.check(0);
             throwsDue("rename to " + word, () -> desk.rename("a " + word), Desk.ARGUMENT);
+            for (int i = 0; i < word.length(); i++) {
+                String near = word.substring(0, i) + "x" + word.substring(i + 1);
+                are(near + "(" + near + "," + word.replace("void", "int") + ")",
+                    "_Z" + (near.length() + near).repeat(2) + (word.equals("void") ? "i" : word.substring(0, 1)));
+            }
             String longer = word + "s";
             String shorter = word.substring(1);
             are(longer + "." + shorter, "_ZN" + longer.length() + longer + shorter.length() + shorter + "E");
@@ -172,6 +181,8 @@ public final class EdgesTest {
         nameHas("_Z1aPiSa_", 1, 7);
         nameHas("_Z1aPiS/_", 1, 7);
         nameHas("_Z1aPiS:_", 1, 7);
+        nameHas("_Z1aPiSv", 1, 7);
+        nameHas("_Z1aPiS0i", 1, 8);
         StringBuilder name = new StringBuilder("_Z1a");
         StringBuilder text = new StringBuilder("a(");
         for (int i = 1; i <= 38; i++) {
@@ -326,6 +337,55 @@ public final class EdgesTest {
         due("depth", with("a((*int):**int)").it.of(0, 7), 4);
     }
 
+    /** All kinds as deep as may be, also at places that are not the first. */
+    private static void deepAndWideTypes() {
+        String nine = "*".repeat(9);
+        String[] deep = {"b<int,*int>", "b<int>.c<int,*int>", "(int,*int):int", "(int):*int", "[2]*int", "b<(int):int>"};
+        for (String type : deep) {
+            Desk desk = with("a(int," + nine + type + ")");
+            due("depth of " + type, desk.it.of(0, 7), 12);
+            due("text of " + type, desk.text(0), "a(int," + nine + type + ")");
+            due("it is read again", desk.link(desk.name(0)), 0);
+            Desk more = new Desk();
+            due("one more of " + type, more.define("a(int,*" + nine + type + ")"), -4);
+        }
+        String arrays = "[2]".repeat(11) + "int";
+        due("arrays", with("a(" + arrays + ")").text(0), "a(" + arrays + ")");
+        String results = "():*".repeat(5) + "():int";
+        due("results", with("a(" + results + ")").text(0), "a(" + results + ")");
+        String params = "(".repeat(11) + "int" + "):int".repeat(11);
+        due("parameters", with("a(" + params + ")").text(0), "a(" + params + ")");
+        String paths = "b<".repeat(11) + "int" + ">".repeat(11);
+        due("arguments", with("a(" + paths + ")").text(0), "a(" + paths + ")");
+        nameHas("_Z1a" + "P".repeat(10) + "1bIiPi", 6, 19);
+        nameHas("_Z1a" + "P".repeat(10) + "FiiPi", 6, 18);
+        nameHas("_Z1a" + "P".repeat(10) + "N1b1cIiPi", 6, 22);
+        textHas("a(" + "*".repeat(10) + "b<int,*int", 6, 19);
+        textHas("a(" + "*".repeat(10) + "(int,*int", 6, 18);
+        textHas("a(" + "*".repeat(10) + "(int):*int", 6, 19);
+        are("a(" + "*".repeat(10) + "(int,int):int)", "_Z1a" + "P".repeat(10) + "FiiiE");
+        are("a(" + "*".repeat(10) + "b<int,int>)", "_Z1a" + "P".repeat(10) + "1bIiiE");
+    }
+
+    /** So many that what is kept of them must be told from one another. */
+    private static void manyTypes() {
+        StringBuilder name = new StringBuilder("_Z1a");
+        for (int i = 1; i <= 66; i++) {
+            name.append('A').append(i).append("_i");
+        }
+        String good = name + "PS_PS1R_PS1S_S1S_S1T_S1U_";
+        Desk desk = new Desk();
+        due("check", desk.check(good) + " at " + desk.it.fault(), "0 at -1");
+        due("link", desk.link(good), 0);
+        due("table", desk.it.of(0, 2) + " " + desk.it.of(0, 3), "69 6");
+        due("the first pointer", desk.entryText(0, 66), "*[1]int");
+        due("another one", desk.entryText(0, 67), "*[65]int");
+        due("it was 65 ahead", desk.it.refers(0, good.indexOf("S1R_")) + " " + desk.it.entry(0, 64, 3), "64 1");
+        String one = "(int):void";
+        String many = "(" + "int,".repeat(64) + "int):void";
+        are("a(" + one + "," + many + ")", "_Z1aFviEFv" + "i".repeat(65) + "E");
+    }
+
     private static void tapeIsFull() {
         Desk desk = new Desk();
         String text = "b(" + "int,".repeat(99) + "b)";
@@ -433,7 +493,74 @@ public final class EdgesTest {
         throwsDue("none is there", () -> desk.it.forget(0), Desk.MISSING);
     }
 
+    /** Whatever was kept of symbols that went is not asked again. */
+    private static void whatIsGoneIsGone() {
+        Desk desk = with("a", "a(*int)");
+        due("ahead", desk.it.alike(0) + " " + desk.it.of(1, 2) + " " + desk.it.entry(1, 0, 0), "2 1 0");
+        due("the last goes", desk.it.forget(1), 1);
+        due("alike", desk.it.alike(0), 1);
+        allMissing(desk, 1);
+        due("it comes anew", desk.define("a(*int)") + " " + desk.it.told(0), "1 2");
+        due("undo", desk.it.undo(), 3);
+        allMissing(desk, 1);
+        due("it comes anew", desk.link("_Z1aPi") + " " + desk.it.told(0), "1 2");
+        due("shown", desk.it.of(0, 1) + desk.text(0), "1a");
+        due("the first goes", desk.it.forget(0), 1);
+        due("another one has its number", desk.it.of(0, 1) + desk.text(0), "7a(*int)");
+        due("its table", desk.it.of(0, 2) + desk.entryText(0, 0), "1*int");
+        allMissing(desk, 1);
+        due("undo", desk.it.undo(), 4);
+        due("the first is back", desk.it.of(0, 1) + desk.text(0) + desk.it.of(0, 2), "1a0");
+        Desk full = new Desk();
+        for (int i = 0; i < 16; i++) {
+            full.define("a" + (char) ('a' + i));
+        }
+        due("of sixteen one goes", full.it.forget(15), 15);
+        allMissing(full, 15);
+        allMissing(full, 16);
+    }
+
+    private static void allMissing(Desk desk, int symbol) {
+        throwsDue("of", () -> desk.it.of(symbol, 0), Desk.MISSING);
+        throwsDue("nameAt", () -> desk.it.nameAt(symbol, 0), Desk.MISSING);
+        throwsDue("textAt", () -> desk.it.textAt(symbol, 0), Desk.MISSING);
+        throwsDue("entry", () -> desk.it.entry(symbol, 0, 0), Desk.MISSING);
+        throwsDue("entryAt", () -> desk.it.entryAt(symbol, 0, 0), Desk.MISSING);
+        throwsDue("refers", () -> desk.it.refers(symbol, 0), Desk.MISSING);
+        throwsDue("alike", () -> desk.it.alike(symbol), Desk.MISSING);
+        throwsDue("apart", () -> desk.it.apart(symbol, 0), Desk.MISSING);
+        throwsDue("apart", () -> desk.it.apart(0, symbol), Desk.MISSING);
+        throwsDue("ranked", () -> desk.it.ranked(symbol), Desk.MISSING);
+        throwsDue("stands", () -> desk.it.stands(symbol, 0), Desk.MISSING);
+        throwsDue("stands", () -> desk.it.stands(0, symbol), Desk.MISSING);
+        throwsDue("shared", () -> desk.it.shared(symbol, 0), Desk.MISSING);
+        throwsDue("shared", () -> desk.it.shared(0, symbol), Desk.MISSING);
+        throwsDue("forget", () -> desk.it.forget(symbol), Desk.MISSING);
+    }
+
+    /** Each call asks one symbol behind a call that asked the other one. */
+    private static void askedInTurns() {
+        Desk desk = with("a(*int,*int)", "b.c(&long,!char,!char,&long)");
+        // _Z1aPiS_ and _ZN1b1cERlKcS1_S0_
+        for (int round = 0; round < 2; round++) {
+            due("of", desk.it.of(0, 5) + " " + desk.it.of(1, 5), "2 4");
+            due("textAt", desk.it.textAt(0, 2) + " " + desk.it.textAt(1, 4), "42 38");
+            due("entry", desk.it.entry(0, 0, 0) + " " + desk.it.entry(1, 0, 0), "0 5");
+            due("entryAt", desk.it.entryAt(0, 0, 0) + " " + desk.it.entryAt(1, 1, 0), "42 38");
+            due("where", desk.it.entry(0, 0, 1) + " " + desk.it.entry(1, 0, 1) + " " + desk.it.entry(1, 2, 1), "4 3 10");
+            due("how often", desk.it.entry(0, 0, 3) + " " + desk.it.entry(1, 0, 3) + " " + desk.it.entry(1, 1, 3), "1 0 1");
+            due("refers", desk.it.refers(0, 6) + " " + desk.it.refers(1, 12), "0 2");
+            due("nameAt", desk.it.nameAt(0, 3) + " " + desk.it.nameAt(1, 3), "97 49");
+            due("stands", desk.it.stands(0, 1) + " " + desk.it.textAt(0, 2), "0 42");
+            due("shared", desk.it.shared(1, 0) + " " + desk.it.textAt(0, 2), "0 42");
+            due("check", desk.check("_Z1d1e1f") + " " + desk.it.textAt(0, 2), "0 42");
+            due("respell", desk.respell("_Z1d1e1e") + " " + desk.it.entryAt(0, 0, 0), "8 42");
+        }
+    }
+
     private static void renameEdges() {
+        Desk exactly = with("abcdefghij");
+        due("all of the tape", exactly.rename("abcdefghij klmnopqrs") + exactly.text(0), "1klmnopqrs");
         Desk none = new Desk();
         due("of no symbols", none.rename("a b") + " " + none.it.told(2), "0 1");
         Desk all = with("b", "b.c", "c.b", "c<b>", "c(b)", "c(*b,&b,!b,[2]b)", "c((b):b)", "c(b<b.b>.b)", "bb.cb", "c.c");
@@ -611,6 +738,15 @@ public final class EdgesTest {
         savingIs("a(b.c.d,b)", "_Z1aN1b1c1dES_", 1, 0);
         savingIs("a(b<int>,b<int>.c)", "_Z1a1bIiENS0_1cE", 1, 2);
         savingIs("a<*a,*a>", "_Z1aIPS_S0_E", 2, 0);
+        savingIs("a([12]int,[12]int)", "_Z1aA12_iS_", 1, 3);
+        savingIs("a([2147483647]int,[2147483647]int)", "_Z1aA2147483647_iS_", 1, 11);
+        savingIs("a(&int,&int)", "_Z1aRiS_", 1, 0);
+        savingIs("a(!int,!int)", "_Z1aKiS_", 1, 0);
+        savingIs("a((int,int):int,(int,int):int)", "_Z1aFiiiES_", 1, 3);
+        savingIs("a(():void,():void)", "_Z1aFvES_", 1, 1);
+        savingIs("a(b<int,int>,b<int,int>)", "_Z1a1bIiiES0_", 1, 3);
+        savingIs("a(" + TWENTY + "," + TWENTY + ")", "_Z1a20" + TWENTY + "S_", 1, 20);
+        savingIs("a(b.c.d.e,b.c.d.e)", "_Z1aN1b1c1d1eES2_", 1, 7);
         // of what is within one another the outermost is, each time with all in it
         savingIs("a((*b,*b):b,(*b,*b):b)", "_Z1aF1bPS_S0_ES1_", 3, 7);
         Desk desk = with("a((*b,*b):b,(*b,*b):b)");
