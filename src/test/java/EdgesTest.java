@@ -27,6 +27,7 @@ public final class EdgesTest {
         forgetTheFirstAndTheLast();
         whatIsGoneIsGone();
         askedInTurns();
+        answersAreOfTheSymbolAlone();
         renameEdges();
         renameGrowsToTheMost();
         renameRefused();
@@ -556,6 +557,43 @@ public final class EdgesTest {
             due("check", desk.check("_Z1d1e1f") + " " + desk.it.textAt(0, 2), "0 42");
             due("respell", desk.respell("_Z1d1e1e") + " " + desk.it.entryAt(0, 0, 0), "8 42");
         }
+    }
+
+    private static String numbers(Desk desk, int symbol) {
+        StringBuilder out = new StringBuilder();
+        for (int what = 0; what <= 7; what++) {
+            out.append(desk.it.of(symbol, what)).append(' ');
+        }
+        for (int k = 0; k < desk.it.of(symbol, 2); k++) {
+            for (int what = 0; what <= 4; what++) {
+                out.append(desk.it.entry(symbol, k, what)).append(',');
+            }
+            out.append(desk.entryText(symbol, k)).append(' ');
+        }
+        return out.append(desk.name(symbol)).append(' ').append(desk.text(symbol)).toString();
+    }
+
+    /** Whatever was read ahead, a symbol has what it has where it is the only one. */
+    private static void answersAreOfTheSymbolAlone() {
+        String[] texts = {"a(" + "*".repeat(11) + "int)", "b<c<d<e>>>.f(b<c<d<e>>>,[7]b)", "g", "a((int,bool,*char):*void,*char)",
+            "a.b.c.d(a.b,a.b.c,a.b.c.d)", "b(" + "[2]".repeat(5) + "*int)", "g()", "h((((int):int):int):int)",
+            "a(a,a,a,a,*a,*a,*a,!*a,!*a)", TWENTY + "(" + TWENTY + "," + TWENTY + "." + TWENTY + ")"};
+        Desk all = with(texts);
+        String[] alone = new String[texts.length];
+        for (int i = 0; i < texts.length; i++) {
+            alone[i] = numbers(with(texts[i]), 0);
+        }
+        for (int step = 1; step < texts.length; step++) {
+            for (int i = 0; i < texts.length; i++) {
+                int symbol = (i * step + step) % texts.length;
+                due("alone or not " + texts[symbol], numbers(all, symbol), alone[symbol]);
+            }
+        }
+        // faults are as they are on a new object, too
+        due("not too deep", all.check("_Z1a" + "P".repeat(11) + "1b"), 0);
+        due("too deep", all.check("_Z1a" + "P".repeat(12) + "1b"), 6);
+        due("not too long", all.check("_Z4aaaa20" + LETTERS + "S_".repeat(94)), 0);
+        due("not too long", all.check("_Z1a" + "P".repeat(11) + "iS_S9_"), 0);
     }
 
     private static void renameEdges() {
